@@ -69,6 +69,8 @@ public final class SunTable {
     private static final int FAULT_CLAUSE = 4;
 
     private final Reader reader;
+    private final TableText tableText;
+    private final RuleText ruleText;
     private final Sheet spare;
     private final Rule[] rules;
     private int ruleCount;
@@ -80,6 +82,8 @@ public final class SunTable {
 
     public SunTable() {
         reader = new Reader();
+        tableText = new TableText(reader);
+        ruleText = new RuleText(reader);
         spare = new Sheet();
         rules = new Rule[MOST_RULES];
         for (int i = 0; i < MOST_RULES; i++) {
@@ -118,7 +122,7 @@ public final class SunTable {
     public int table() {
         reader.split();
         reader.length = 0;
-        int fault = new TableText(reader, spare).read();
+        int fault = tableText.read(spare);
         if (fault != 0) {
             return -2 - fault;
         }
@@ -133,7 +137,7 @@ public final class SunTable {
         }
         reader.split();
         reader.length = 0;
-        int fault = new RuleText(reader, rules[ruleCount]).read();
+        int fault = ruleText.read(rules[ruleCount]);
         if (fault != 0) {
             return -2 - fault;
         }
@@ -254,7 +258,7 @@ public final class SunTable {
             return -2;
         }
         asked.findRow(land, n);
-        return what == 0 ? asked.full : asked.chosen[what - 1];
+        return what == 0 ? asked.amount : asked.chosen[what - 1];
     }
 
     public int best(int n, int what) {
@@ -262,7 +266,7 @@ public final class SunTable {
             return NONE;
         }
         asked.findRate(n);
-        return what == 0 ? asked.which : asked.full;
+        return what == 0 ? asked.which : asked.amount;
     }
 
     public int quiet() {
@@ -288,7 +292,7 @@ public final class SunTable {
             return NO_NUMBER;
         }
         asked.play(one, other, n);
-        return what == 0 ? asked.full : asked.which;
+        return what == 0 ? asked.amount : asked.which;
     }
 
     public int shun(int n, int what) {
@@ -299,7 +303,7 @@ public final class SunTable {
         switch (what) {
             case 0: return Integer.bitCount(asked.which);
             case 1: return asked.which;
-            default: return asked.full;
+            default: return asked.amount;
         }
     }
 
@@ -308,7 +312,7 @@ public final class SunTable {
             return -2;
         }
         asked.findMothered(n);
-        return what == 0 ? asked.which : asked.full;
+        return what == 0 ? asked.which : asked.amount;
     }
 
     public int parts(int barley, int land) {
@@ -337,17 +341,19 @@ public final class SunTable {
             return -3;
         }
         asked.findRules(ruleCount, NONE);
-        return what == 0 ? asked.full : asked.which;
+        return what == 0 ? asked.amount : asked.which;
     }
 
     public int look(int n, int what) {
         if (!now.sheet.there || !within(n, 0, LAST_TOLD) || !within(what, 0, 1)) {
             return NONE;
         }
-        if (!asked.findLook(ruleCount, n)) {
+        asked.findRules(ruleCount, n);
+        if (asked.amount < 1 || now.sheet.lands < 1) {
             return -2;
         }
-        return what == 0 ? asked.which : asked.full;
+        asked.findLook(ruleCount);
+        return what == 0 ? asked.which : asked.amount;
     }
 
     public int seed(int x) {
@@ -364,7 +370,7 @@ public final class SunTable {
             return NONE;
         }
         asked.drawSummers(m, n, p);
-        return what == 0 ? asked.full : asked.which;
+        return what == 0 ? asked.amount : asked.which;
     }
 
     public int count(int what) {
@@ -592,6 +598,11 @@ public final class SunTable {
             return true;
         }
 
+        /** Goes on if this sign stands here; otherwise that is a FAULT. */
+        boolean demand(int sign) {
+            return take(sign) || fail(FAULT_STRANGE);
+        }
+
         /** Notes the FAULT of this place; false, so that a reader can end with it. */
         boolean fail(int kind) {
             if (fault == 0 && at < size) {
@@ -618,33 +629,30 @@ public final class SunTable {
     private static final class TableText {
         private static final int MOST_CLAUSES = 40;
         private final Reader in;
-        private final Sheet sheet;
 
-        TableText(Reader in, Sheet sheet) {
+        TableText(Reader in) {
             this.in = in;
-            this.sheet = sheet;
         }
 
         /** The FAULT, or 0 if the sheet holds the TABLE. */
-        int read() {
+        int read(Sheet sheet) {
             sheet.clear();
             for (int clause = 0; clause <= MOST_CLAUSES; clause++) {
-                if (!readClause(clause)) {
+                if (!readClause(sheet, clause)) {
                     return in.fault;
                 }
                 if (in.sign() == END) {
                     sheet.there = true;
                     return 0;
                 }
-                if (!in.take(NEXT)) {
-                    in.fail(FAULT_STRANGE);
+                if (!in.demand(NEXT)) {
                     return in.fault;
                 }
             }
             return in.fault;
         }
 
-        private boolean readClause(int clause) {
+        private boolean readClause(Sheet sheet, int clause) {
             int word = in.sign();
             if (word != WORD_TABLE && word != WORD && word != WORD_SUN) {
                 return in.fail(FAULT_STRANGE);
@@ -655,12 +663,12 @@ public final class SunTable {
             }
             in.step();
             if (word == WORD_TABLE) {
-                return readRates();
+                return readRates(sheet);
             }
-            return word == WORD ? readLand() : readSun();
+            return word == WORD ? readLand(sheet) : readSun(sheet);
         }
 
-        private boolean readRates() {
+        private boolean readRates(Sheet sheet) {
             if (!in.takeNumber(1, MOST_RATE)) {
                 return false;
             }
@@ -672,7 +680,7 @@ public final class SunTable {
             return true;
         }
 
-        private boolean readLand() {
+        private boolean readLand(Sheet sheet) {
             int land = sheet.lands;
             if (!in.takeNumber(0, 99)) {
                 return false;
@@ -690,7 +698,7 @@ public final class SunTable {
             return true;
         }
 
-        private boolean readSun() {
+        private boolean readSun(Sheet sheet) {
             if (!in.takeNumber(0, sheet.lands - 1)) {
                 return false;
             }
@@ -705,128 +713,121 @@ public final class SunTable {
 
     /** Reads the text of a RULE; what joins two values is put behind both of them. */
     private static final class RuleText {
-        private static final int MOST_CLAUSES = 12;
         private static final int MOST_DEPTH = 10;
         private static final int MOST_PARTS = 60;
         private final Reader in;
-        private final Rule rule;
         private int parts;
 
-        RuleText(Reader in, Rule rule) {
+        RuleText(Reader in) {
             this.in = in;
-            this.rule = rule;
         }
 
         /** The FAULT, or 0 if the RULE holds what was told. */
-        int read() {
+        int read(Rule rule) {
             rule.clear();
-            for (int clause = 0; clause <= MOST_CLAUSES; clause++) {
-                if (!readClause(clause)) {
+            parts = 0;
+            for (int clause = 0; clause <= Rule.MOST_CLAUSES; clause++) {
+                if (!takeBuy(clause)) {
                     return in.fault;
                 }
+                int sumAt = rule.size;
+                if (!readSum(rule)) {
+                    return in.fault;
+                }
+                int testAt = rule.size;
+                if (in.take(WORD_IF) && !readTest(rule, 0)) {
+                    return in.fault;
+                }
+                rule.addClause(sumAt, testAt);
                 if (in.sign() == END) {
                     return 0;
                 }
-                if (!in.take(NEXT)) {
-                    in.fail(FAULT_STRANGE);
+                if (!in.demand(NEXT)) {
                     return in.fault;
                 }
             }
             return in.fault;
         }
 
-        private boolean readClause(int clause) {
-            if (in.sign() != WORD_BUY) {
-                return in.fail(FAULT_STRANGE);
-            }
-            if (clause >= MOST_CLAUSES) {
+        private boolean takeBuy(int clause) {
+            if (in.sign() == WORD_BUY && clause >= Rule.MOST_CLAUSES) {
                 return in.fail(FAULT_CLAUSE);
             }
-            in.step();
-            int sumAt = rule.size;
-            if (!readSum()) {
-                return false;
-            }
-            int testAt = rule.size;
-            if (in.take(WORD_IF) && !readTest(0)) {
-                return false;
-            }
-            rule.addClause(sumAt, testAt);
-            return true;
+            return in.demand(WORD_BUY);
         }
 
-        private boolean readTest(int depth) {
-            if (!readFact(depth)) {
+        /** "and" joins at once, "or" waits until the next one or the end. */
+        private boolean readTest(Rule rule, int depth) {
+            if (!readFact(rule, depth)) {
                 return false;
             }
-            boolean either = false;
+            boolean waiting = false;
             for (int k = 0; k < MOST_BYTES; k++) {
-                if (in.take(WORD_AND)) {
-                    if (!readFact(depth)) {
-                        return false;
-                    }
-                    rule.add(WORD_AND, 0);
-                } else if (in.take(WORD_OR)) {
-                    if (either) {
-                        rule.add(WORD_OR, 0);
-                    }
-                    either = true;
-                    if (!readFact(depth)) {
-                        return false;
-                    }
-                } else {
+                int sign = in.sign();
+                if (sign != WORD_AND && sign != WORD_OR) {
                     break;
                 }
+                in.step();
+                if (sign == WORD_OR && waiting) {
+                    rule.add(WORD_OR, 0);
+                }
+                if (!readFact(rule, depth)) {
+                    return false;
+                }
+                if (sign == WORD_AND) {
+                    rule.add(WORD_AND, 0);
+                } else {
+                    waiting = true;
+                }
             }
-            if (either) {
+            if (waiting) {
                 rule.add(WORD_OR, 0);
             }
             return true;
         }
 
-        private boolean readFact(int depth) {
+        private boolean readFact(Rule rule, int depth) {
             int sign = in.sign();
             if (sign != OPEN && sign != WORD_NOT) {
-                return readComparison();
+                return readComparison(rule);
             }
             if (depth >= MOST_DEPTH) {
                 return in.fail(FAULT_DEEP);
             }
             in.step();
-            if (sign == WORD_NOT) {
-                if (!readFact(depth + 1)) {
-                    return false;
-                }
-                rule.add(WORD_NOT, 0);
-                return true;
+            if (sign == OPEN) {
+                return readTest(rule, depth + 1) && in.demand(CLOSE);
             }
-            if (!readTest(depth + 1)) {
+            if (!readFact(rule, depth + 1)) {
                 return false;
             }
-            return in.take(CLOSE) || in.fail(FAULT_STRANGE);
+            rule.add(WORD_NOT, 0);
+            return true;
         }
 
-        private boolean readComparison() {
-            if (!readSum()) {
+        private boolean readComparison(Rule rule) {
+            if (!readSum(rule)) {
                 return false;
             }
             int sign = in.sign();
             if (sign < LESS || sign > MORE_OR_SAME) {
                 return in.fail(FAULT_STRANGE);
             }
-            if (!countPart()) {
-                return false;
+            if (parts >= MOST_PARTS) {
+                return in.fail(FAULT_PARTS);
             }
+            parts++;
             in.step();
-            if (!readSum()) {
+            if (!readSum(rule)) {
                 return false;
             }
             rule.add(sign, 0);
             return true;
         }
 
-        private boolean readSum() {
-            if (!readValue()) {
+        /** What joins VALUES joins at once, what joins TERMS waits until the next one or the end. */
+        private boolean readSum(Rule rule) {
+            if (!readValue(rule)) {
                 return false;
             }
             int waiting = END;
@@ -840,7 +841,7 @@ public final class SunTable {
                 if (joinsTerms && waiting != END) {
                     rule.add(waiting, 0);
                 }
-                if (!readValue()) {
+                if (!readValue(rule)) {
                     return false;
                 }
                 if (joinsTerms) {
@@ -855,7 +856,7 @@ public final class SunTable {
             return true;
         }
 
-        private boolean readValue() {
+        private boolean readValue(Rule rule) {
             int sign = in.sign();
             if (sign == LONG_NUMBER) {
                 return in.fail(FAULT_NUMBER);
@@ -864,19 +865,12 @@ public final class SunTable {
             if (sign != NUMBER && !word) {
                 return in.fail(FAULT_STRANGE);
             }
-            if (!countPart()) {
-                return false;
-            }
-            rule.add(word ? WORD : NUMBER, word ? sign - WORD : in.number());
-            in.step();
-            return true;
-        }
-
-        private boolean countPart() {
             if (parts >= MOST_PARTS) {
                 return in.fail(FAULT_PARTS);
             }
             parts++;
+            rule.add(word ? WORD : NUMBER, word ? sign - WORD : in.number());
+            in.step();
             return true;
         }
     }
@@ -1253,6 +1247,8 @@ public final class SunTable {
         private int chooser;
         private int choice;
         private boolean missed;
+        /** Bits of LANDS from which anybody bought. */
+        private int sellers;
         private final long[] words = new long[VALUE_WORDS];
 
         /** A RULE of null is none. */
@@ -1264,10 +1260,12 @@ public final class SunTable {
             chooser = NONE;
             choice = NONE;
             missed = false;
+            sellers = 0;
         }
 
-        void passAll(State state, int n) {
-            for (int i = 0; i < n; i++) {
+        /** Enough for who asks for BARNS alone: without HAY these stay as they are. */
+        void passTillBare(State state, int n) {
+            for (int i = 0; i < n && total(state.hay) > 0; i++) {
                 pass(state);
             }
         }
@@ -1287,6 +1285,7 @@ public final class SunTable {
                 state.from[land] = other;
                 if (other != NONE) {
                     state.buy(land, other);
+                    sellers |= 1 << other;
                     buyers++;
                 }
             }
@@ -1298,17 +1297,30 @@ public final class SunTable {
             return buyers;
         }
 
+        /** From whom a LAND buys now, or NONE. */
         private int pick(State state, int land, int lands) {
-            if (has(idle, land)) {
-                return NONE;
-            }
             if (land == chooser) {
                 return pickChosen(state, lands);
             }
-            if (state.men[land] < state.rate) {
+            boolean unwilling = rule == null && (state.hay[land] < 1 || state.sun[land] > 0);
+            if (has(idle, land) || unwilling || state.men[land] < state.rate) {
                 return NONE;
             }
-            return rule == null ? pickSunniest(state, land, lands) : pickByRule(state, land, lands);
+            tellLand(state, land);
+            long most = 0;
+            int found = NONE;
+            for (int other = 0; other < lands; other++) {
+                if (has(shunned, other) || !state.mayBuy(land, other)) {
+                    continue;
+                }
+                tellOther(state, other);
+                long liking = rule == null ? state.sun[other] : rule.sumFor(words);
+                if (liking > most) {
+                    most = liking;
+                    found = other;
+                }
+            }
+            return found;
         }
 
         private int pickChosen(State state, int lands) {
@@ -1317,41 +1329,6 @@ public final class SunTable {
             }
             missed = !state.mayBuy(chooser, choice);
             return missed ? NONE : choice;
-        }
-
-        private int pickSunniest(State state, int land, int lands) {
-            if (state.hay[land] < 1 || state.sun[land] > 0) {
-                return NONE;
-            }
-            int most = 0;
-            int found = NONE;
-            for (int other = 0; other < lands; other++) {
-                if (!has(shunned, other) && state.mayBuy(land, other) && state.sun[other] > most) {
-                    most = state.sun[other];
-                    found = other;
-                }
-            }
-            return found;
-        }
-
-        private int pickByRule(State state, int land, int lands) {
-            if (rule == null) {
-                return NONE;
-            }
-            tellLand(state, land);
-            long most = 0;
-            int found = NONE;
-            for (int other = 0; other < lands; other++) {
-                if (!has(shunned, other) && state.mayBuy(land, other)) {
-                    tellOther(state, other);
-                    long sum = rule.sumFor(words);
-                    if (sum > most) {
-                        most = sum;
-                        found = other;
-                    }
-                }
-            }
-            return found;
         }
 
         private void tellLand(State state, int land) {
@@ -1388,8 +1365,10 @@ public final class SunTable {
         private final int[] chosen = new int[MOST_TURNS];
         private final boolean[] fits = new boolean[MOST_RULES + 1];
         private final int[][] froms = new int[MOST_RULES + 1][MOST_LANDS];
+        private final int[] sellers = new int[1 << MOST_LANDS];
+        /** What the last question found: who or which, and how much. */
         private int which;
-        private int full;
+        private int amount;
 
         Questions(World world, Rule[] rules) {
             this.world = world;
@@ -1406,7 +1385,9 @@ public final class SunTable {
 
         State after(int n) {
             startOn(trial);
-            weeks.passAll(trial, n);
+            for (int i = 0; i < n; i++) {
+                weeks.pass(trial);
+            }
             return trial;
         }
 
@@ -1424,15 +1405,15 @@ public final class SunTable {
         void findRow(int land, int n) {
             startOn(levels[0]);
             weeks.chooser = land;
-            full = NONE;
+            amount = NONE;
             tryRows(0, n, land);
         }
 
         /** Rows are tried in their order, so a later one must be better to be taken. */
         private void tryRows(int week, int n, int land) {
             if (week >= n || week >= MOST_TURNS) {
-                if (levels[week].barn[land] > full) {
-                    full = levels[week].barn[land];
+                if (levels[week].barn[land] > amount) {
+                    amount = levels[week].barn[land];
                     copyRow(tried, chosen);
                 }
                 return;
@@ -1454,19 +1435,19 @@ public final class SunTable {
         }
 
         void findRate(int n) {
-            full = NONE;
+            amount = NONE;
             for (int rate = 1; rate <= MOST_RATE; rate++) {
                 startOn(trial);
                 trial.rate = rate;
-                takeIfFuller(rate, n);
+                weeks.passTillBare(trial, n);
+                keepIfFuller(rate);
             }
         }
 
-        private void takeIfFuller(int candidate, int n) {
-            weeks.passAll(trial, n);
+        private void keepIfFuller(int candidate) {
             int barns = total(trial.barn);
-            if (barns > full) {
-                full = barns;
+            if (barns > amount) {
+                amount = barns;
                 which = candidate;
             }
         }
@@ -1484,10 +1465,12 @@ public final class SunTable {
         }
 
         int worthOf(int land, int men, int n) {
-            int without = after(n).barn[land];
+            startOn(trial);
+            weeks.passTillBare(trial, n);
+            int without = trial.barn[land];
             startOn(trial);
             trial.addMen(land, men);
-            weeks.passAll(trial, n);
+            weeks.passTillBare(trial, n);
             return trial.barn[land] - without;
         }
 
@@ -1495,7 +1478,7 @@ public final class SunTable {
             for (int more = 0; more <= 20; more++) {
                 startOn(trial);
                 trial.addSun(land, more);
-                weeks.passAll(trial, n);
+                weeks.passTillBare(trial, n);
                 if (trial.barn[land] >= barn) {
                     return more;
                 }
@@ -1506,7 +1489,7 @@ public final class SunTable {
         void play(int one, int other, int n) {
             startOn(levels[0]);
             weeks.idle = 1 << one | 1 << other;
-            full = playOn(0, n, one, other);
+            amount = playOn(0, n, one, other);
         }
 
         private int playOn(int turn, int n, int one, int other) {
@@ -1539,38 +1522,58 @@ public final class SunTable {
         }
 
         void findShunned(int n) {
-            full = NONE;
+            amount = NONE;
             which = 0;
-            for (int size = 0; size <= world.sheet.lands; size++) {
-                for (int set = 0; set < 1 << world.sheet.lands; set++) {
-                    if (Integer.bitCount(set) == size) {
-                        startOn(trial);
-                        weeks.shunned = set;
-                        takeIfFuller(set, n);
-                    }
+            for (int set = 0; set < 1 << world.sheet.lands; set++) {
+                int same = sameWithFewer(set);
+                if (same != NONE) {
+                    sellers[set] = sellers[same];
+                    continue;
+                }
+                startOn(trial);
+                weeks.shunned = set;
+                weeks.passTillBare(trial, n);
+                sellers[set] = weeks.sellers;
+                int barns = total(trial.barn);
+                boolean fewer = Integer.bitCount(set) < Integer.bitCount(which);
+                if (barns > amount || barns == amount && fewer) {
+                    amount = barns;
+                    which = set;
                 }
             }
         }
 
+        /** All goes the same if one more is shunned from whom nobody buys anyway: a set without it. */
+        private int sameWithFewer(int set) {
+            for (int land = 0; land < MOST_LANDS; land++) {
+                int without = set & ~(1 << land);
+                if (without != set && (sellers[without] >> land & 1) == 0) {
+                    return without;
+                }
+            }
+            return NONE;
+        }
+
         void findMothered(int n) {
-            full = NONE;
+            amount = NONE;
             for (int land = NONE; land < world.sheet.lands; land++) {
                 startOn(trial);
                 if (land != NONE) {
                     trial.addSun(land, 1);
                 }
-                takeIfFuller(land, n);
+                weeks.passTillBare(trial, n);
+                keepIfFuller(land);
             }
         }
 
         /** Which RULES are so (none stands first), and by them from whom LANDS buy in a WEEK. */
         void findRules(int ruleCount, int week) {
-            full = 0;
+            amount = 0;
             which = -2;
             for (int rule = NONE; rule < ruleCount && rule < MOST_RULES; rule++) {
                 fits[rule + 1] = isSo(rule, week);
                 if (fits[rule + 1]) {
-                    full++;
+                    amount++;
                     if (which == -2) {
                         which = rule;
                     }
@@ -1594,21 +1597,16 @@ public final class SunTable {
             return true;
         }
 
-        /** False if no RULE is so, or there are no LANDS. */
-        boolean findLook(int ruleCount, int week) {
-            findRules(ruleCount, week);
-            if (full < 1 || world.sheet.lands < 1) {
-                return false;
-            }
-            full = MOST_RULES + 2;
+        /** By which LAND the RULES that were found part best. */
+        void findLook(int ruleCount) {
+            amount = MOST_RULES + 2;
             for (int land = 0; land < world.sheet.lands; land++) {
                 int alike = mostAlike(ruleCount, land);
-                if (alike < full) {
-                    full = alike;
+                if (alike < amount) {
+                    amount = alike;
                     which = land;
                 }
             }
-            return true;
         }
 
         private int mostAlike(int ruleCount, int land) {
@@ -1627,7 +1625,7 @@ public final class SunTable {
 
         void drawSummers(int m, int n, int p) {
             int drawn = world.drawn;
-            full = 0;
+            amount = 0;
             which = 0;
             for (int summer = 0; summer < m; summer++) {
                 startOn(trial);
@@ -1639,7 +1637,7 @@ public final class SunTable {
                     }
                     which += weeks.pass(trial);
                 }
-                full += total(trial.barn);
+                amount += total(trial.barn);
             }
         }
 
