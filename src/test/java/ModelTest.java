@@ -10,17 +10,21 @@ public final class ModelTest {
     private static final String[] CALLS = {"feed", "end", "table", "rule", "force", "land", "told", "week", "swap",
         "give", "fight", "set", "undo", "ahead", "bare", "row", "best", "quiet", "worth", "need", "game", "shun",
         "mother", "parts", "note", "ruled", "look", "seed", "summers", "count", "image", "back"};
-    private static final int[] OFTEN = {1, 1, 1, 2, 6, 8, 4, 14, 10, 8, 8, 6, 8, 8, 4, 5, 4, 4, 5, 5, 8, 3, 4, 8, 10,
-        6, 6, 4, 4, 12, 5, 5};
+    /** How often each of these is drawn, of all together. */
+    private static final int[] OFTEN = {1, 1, 2, 1, 6, 8, 4, 8, 8, 6, 5, 5, 6, 8, 4, 12, 5, 4, 8, 8, 10, 6, 5, 6, 8,
+        5, 6, 3, 5, 10, 4, 12};
 
     private final Random random;
     private final SunTable real = new SunTable();
     private final PlainTable plain = new PlainTable();
     private final List<String> log = new ArrayList<>();
+    /** Whether it is often gone back to images, so that fields are not bare soon. */
+    private final boolean often;
     private int wrong;
 
     private ModelTest(long seed) {
         random = new Random(seed);
+        often = seed % 3 != 0;
     }
 
     public static void main(String[] args) throws ReflectiveOperationException {
@@ -73,10 +77,15 @@ public final class ModelTest {
         for (int i = below(7); i > 0; i--) {
             tell(aRule(), "rule");
         }
-        tell(aTable(), "table");
-        for (int i = 0; i < 380 && wrong == 0; i++) {
+        for (int i = 0; i < 3; i++) {
+            tell(aTable(), "table");
+            call("force", below(Math.max(1, real.count(3))));
+            call("image", i);
+        }
+        int all = java.util.Arrays.stream(OFTEN).sum();
+        for (int i = 0; i < 350 && wrong == 0; i++) {
             int which = 0;
-            for (int left = below(186); left >= OFTEN[which]; which = (which + 1) % OFTEN.length) {
+            for (int left = below(all); left >= OFTEN[which]; which++) {
                 left -= OFTEN[which];
             }
             aCall(CALLS[which]);
@@ -87,9 +96,9 @@ public final class ModelTest {
     private int runTexts() throws ReflectiveOperationException {
         for (int i = 0; i < 60 && wrong == 0; i++) {
             if (below(2) == 0) {
-                tell(spoilt(aTable()), "table");
+                tell(spoilt(below(3) == 0 ? aLongTable() : aTable()), "table");
             } else {
-                tell(spoilt(aRule()), "rule");
+                tell(spoilt(below(2) == 0 ? aLongRule() : aRule()), "rule");
             }
             call("count", 3);
         }
@@ -97,7 +106,9 @@ public final class ModelTest {
     }
 
     private void aCall(String name) throws ReflectiveOperationException {
-        int land = near(5);
+        int lands = Math.max(1, real.count(2));
+        int land = near(lands);
+        int other = near(lands);
         int what = near(4);
         switch (name) {
             case "table": tell(below(3) == 0 ? spoilt(aTable()) : aTable(), "table"); break;
@@ -107,8 +118,8 @@ public final class ModelTest {
             case "force": call(name, below(8) - 1); break;
             case "land": call(name, land, near(6)); break;
             case "told": call(name, land, below(8) == 0 ? 58 + below(5) : near(12)); break;
-            case "swap": case "fight": call(name, land, near(5)); break;
-            case "give": call(name, land, near(5), below(9) == 0 ? below(104) - 1 : below(8)); break;
+            case "swap": case "fight": call(name, land, other); break;
+            case "give": call(name, land, other, below(9) == 0 ? below(104) - 1 : below(8)); break;
             case "set": call(name, near(10)); break;
             case "ahead": call(name, land, below(5) == 0 ? 95 + below(8) : near(20), what); break;
             case "bare": call(name, land); break;
@@ -116,32 +127,32 @@ public final class ModelTest {
             case "best": case "mother": call(name, span(), near(2)); break;
             case "worth": call(name, land, below(102), span()); break;
             case "need": call(name, land, below(9) == 0 ? 9990 + below(15) : near(60), span()); break;
-            case "game": call(name, land, near(5), near(5), near(2)); break;
+            case "game": call(name, land, other, near(5), near(2)); break;
             case "shun": call(name, span(), near(3)); break;
             case "parts": call(name, below(5) == 0 ? 9990 + below(15) : near(300), land); break;
-            case "note": aNote(land); break;
+            case "note": aNote(land, other); break;
             case "ruled": call(name, near(2)); break;
             case "look": call(name, below(7) == 0 ? 57 + below(6) : near(6), near(2)); break;
             case "seed": call(name, random.nextInt() >> (below(9) == 0 ? 0 : 1) & (below(9) == 0 ? -1 : 2147483647)); break;
             case "summers": call(name, near(11), span(), below(104) - 1, near(2)); break;
             case "count": call(name, near(15)); break;
-            case "image": case "back": call(name, near(4)); break;
+            case "image": call(name, near(4)); break;
+            case "back": call(often ? name : "week", often ? new int[] {near(4)} : new int[0]); break;
             default: call(name);
         }
     }
 
-    /** Mostly a note that some rule keeps to, so that several stay so. */
-    private void aNote(int land) throws ReflectiveOperationException {
+    private void aNote(int land, int other) throws ReflectiveOperationException {
         if (below(12) == 0) {
             call("note", -1, 0, 0);
         } else {
-            call("note", below(9) == 0 ? 57 + below(6) : near(5), land, below(2) == 0 ? -1 : near(5));
+            call("note", below(9) == 0 ? 57 + below(6) : near(5), land, below(2) == 0 ? -1 : other);
         }
     }
 
     /** Mostly below n, now and then a little outside. */
     private int near(int n) {
-        int outside = below(16);
+        int outside = below(30);
         return outside == 0 ? -1 : outside == 1 ? n : below(n);
     }
 
@@ -172,6 +183,43 @@ public final class ModelTest {
             s.append(i > 0 ? ";" : "");
         }
         return s.length() > 400 ? aRule() : s.toString();
+    }
+
+    /** About as many clauses as there may be. */
+    private String aLongTable() {
+        StringBuilder s = new StringBuilder("table 1 1");
+        for (int i = 3 + below(4); i > 0; i--) {
+            s.append(";land 1 1 ").append(below(10));
+        }
+        for (int i = 30 + below(8); i > 0; i--) {
+            s.append(";sun ").append(below(3)).append(' ').append(below(10));
+        }
+        return s.length() > 400 ? s.substring(0, 400) : s.toString();
+    }
+
+    /** About as many clauses, or as deep, or as many values and facts, as there may be. */
+    private String aLongRule() {
+        StringBuilder s = new StringBuilder("buy 1");
+        int kind = below(3);
+        if (kind == 0) {
+            s.append(";buy sun".repeat(9 + below(4)));
+        } else if (kind == 1) {
+            s.append(" if ");
+            String closing = "";
+            for (int i = 7 + below(5); i > 0; i--) {
+                boolean open = below(2) == 0;
+                s.append(open ? "[" : "not ");
+                closing += open ? "]" : "";
+            }
+            s.append("sun<hay").append(closing).append(" and men>0 or [sun=0]");
+        } else {
+            s.append(" if 1=1");
+            for (int i = 3; i < 54 + below(8); i += 3) {
+                s.append(below(2) == 0 ? " or 0=1" : " and 1=1");
+            }
+            s.append("+1".repeat(below(7)));
+        }
+        return s.toString();
     }
 
     private String aTest(int depth) {
@@ -206,7 +254,7 @@ public final class ModelTest {
     }
 
     private String spoilt(String text) {
-        if (below(8) == 0) {
+        if (below(4) == 0) {
             return text;
         }
         StringBuilder s = new StringBuilder(text);
