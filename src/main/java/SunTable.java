@@ -3,6 +3,7 @@ public final class SunTable {
     public static final int NONE = -1;
 
     private static final int MOST_BYTES = 400;
+    private static final int BYTES_FED = 20;
     private static final int MOST_LANDS = 5;
     private static final int MOST_RULES = 6;
     private static final int MOST_NOTES = 10;
@@ -14,6 +15,8 @@ public final class SunTable {
     private static final int MOST_RATE = 9;
     private static final int MOST_TURNS = 4;
     private static final int MOST_WEEKS = 60;
+    private static final int MOST_BARE = 100;
+    private static final int MOST_NEED = 20;
     private static final int LAST_TOLD = 60;
     private static final int LAST_WEEK = 999;
     private static final int NO_NUMBER = -100000;
@@ -37,6 +40,7 @@ public final class SunTable {
     private static final int LESS_OR_SAME = 15;
     private static final int MORE_OR_SAME = 16;
     private static final int WORD = 20;
+    private static final int WORD_LAND = WORD;
     private static final int WORD_OTHER = 21;
     private static final int WORD_MEN = 22;
     private static final int WORD_SUN = 23;
@@ -100,7 +104,7 @@ public final class SunTable {
     }
 
     public int feed(int a, int b, int c, int d, int e) {
-        if (reader.length + 20 > MOST_BYTES) {
+        if (reader.length + BYTES_FED > MOST_BYTES) {
             return NONE;
         }
         reader.putNumber(a);
@@ -654,10 +658,10 @@ public final class SunTable {
 
         private boolean readClause(Sheet sheet, int clause) {
             int word = in.sign();
-            if (word != WORD_TABLE && word != WORD && word != WORD_SUN) {
+            if (word != WORD_TABLE && word != WORD_LAND && word != WORD_SUN) {
                 return in.fail(FAULT_STRANGE);
             }
-            boolean sixth = word == WORD && sheet.lands >= MOST_LANDS;
+            boolean sixth = word == WORD_LAND && sheet.lands >= MOST_LANDS;
             if (clause >= MOST_CLAUSES || (word == WORD_TABLE) != (clause == 0) || sixth) {
                 return in.fail(FAULT_CLAUSE);
             }
@@ -665,7 +669,7 @@ public final class SunTable {
             if (word == WORD_TABLE) {
                 return readRates(sheet);
             }
-            return word == WORD ? readLand(sheet) : readSun(sheet);
+            return word == WORD_LAND ? readLand(sheet) : readSun(sheet);
         }
 
         private boolean readRates(Sheet sheet) {
@@ -1332,7 +1336,7 @@ public final class SunTable {
         }
 
         private void tellLand(State state, int land) {
-            words[0] = land;
+            words[WORD_LAND - WORD] = land;
             words[WORD_MEN - WORD] = state.men[land];
             words[WORD_SUN - WORD] = state.sun[land];
             words[WORD_HAY - WORD] = state.hay[land];
@@ -1393,7 +1397,7 @@ public final class SunTable {
 
         int firstBare(int land) {
             startOn(trial);
-            for (int i = 0; i < 100; i++) {
+            for (int i = 0; i < MOST_BARE; i++) {
                 if (trial.hay[land] == 0) {
                     return trial.week;
                 }
@@ -1475,7 +1479,7 @@ public final class SunTable {
         }
 
         int leastSun(int land, int barn, int n) {
-            for (int more = 0; more <= 20; more++) {
+            for (int more = 0; more <= MOST_NEED; more++) {
                 startOn(trial);
                 trial.addSun(land, more);
                 weeks.passTillBare(trial, n);

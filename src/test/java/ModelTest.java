@@ -150,10 +150,15 @@ public final class ModelTest {
         }
     }
 
-    /** Mostly below n, now and then a little outside. */
+    /** Mostly below n, now and then a little or far outside. */
     private int near(int n) {
-        int outside = below(30);
-        return outside == 0 ? -1 : outside == 1 ? n : below(n);
+        switch (below(60)) {
+            case 0: case 1: return -1;
+            case 2: case 3: return n;
+            case 4: return random.nextInt();
+            case 5: return below(2) == 0 ? Integer.MIN_VALUE : Integer.MAX_VALUE;
+            default: return below(n);
+        }
     }
 
     private int span() {

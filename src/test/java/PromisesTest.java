@@ -190,6 +190,9 @@ public final class PromisesTest {
         dueTable("table 1 1;land 0 0 0;sun 0 61", 27, 1);
         dueTable("table 1 1;land 0 0 0;sun 0", 26, 0);
         dueTable("table 1 1\t", 9, 0);
+        dueTable(";".repeat(400), 0, 0);
+        dueTable("table 1 1" + ";".repeat(391), 10, 0);
+        dueTable("table 1 1" + " ".repeat(390) + ";", 400, 0);
         dueTable("table 1 1" + (char) 200, 9, 0);
         String lands = "table 1 1;land 0 0 0;land 0 0 0;land 0 0 0;land 0 0 0;land 0 0 0;";
         dueTable(lands + "land x", lands.length(), 4);
@@ -229,6 +232,10 @@ public final class PromisesTest {
         dueRule("buy 1 if 1 => 2", 12, 0);
         dueRule("buy 1 if 1 ! 2", 11, 0);
         dueRule("buy 1 if 1<2<3", 12, 0);
+        dueRule("buy 1 if 1<=", 12, 0);
+        dueRule("buy 1 if 1>=", 12, 0);
+        dueRule("buy 1 if 1<", 11, 0);
+        dueRule("%".repeat(400), 0, 0);
         dueRule("buy 1 if [1<2", 13, 0);
         dueRule("buy 1 if [1<2;", 13, 0);
         dueRule("buy 1 if 1<2]", 12, 0);
@@ -244,6 +251,15 @@ public final class PromisesTest {
         dueRule("buy Men", 4, 0);
         dueRule("buy theirbarn", 4, 0);
         promise05Limits();
+        x = new SunTable();
+        String faulty = "buy 1" + "+1".repeat(59) + " if";
+        for (int i = 0; i < 20; i++) {
+            due("a long fault", Texts.rule(x, faulty), -3 - 8 * 126);
+        }
+        due("a rule behind all these", Texts.rule(x, "buy 0;buy 1"), 0);
+        Texts.table(x, "table 1 1;land 1 0 1;land 0 1 0");
+        x.force(0);
+        due("nothing is left of them", x.week(), 0);
     }
 
     private static void promise05Limits() {
@@ -522,7 +538,7 @@ public final class PromisesTest {
 
     private static void promise16() {
         promise = 16;
-        SunTable x = with("table 1 0;land 0 0 99;land 0 0 0;land 1 9 98;land 0 1 99;sun 3 1");
+        SunTable x = with("table 1 0;land 0 0 99;land 0 0 0;land 1 9 98;land 0 1 99");
         due("rain for 99 weeks", x.bare(0), 99);
         due("bare now", x.bare(1), 0);
         due("one reaped, then rain", x.bare(2), 98);
@@ -530,6 +546,7 @@ public final class PromisesTest {
         x.week();
         due("a week later the same", x.bare(0), 99);
         due("bare in this week", x.bare(1), 1);
+        due("the last of 100", x.bare(3), 100);
         due("no such land", x.bare(4), -1);
         due("no such land either", x.bare(-1), -1);
         due("no table", new SunTable().bare(0), -1);
@@ -598,6 +615,11 @@ public final class PromisesTest {
         x = with("table 1 9;land 9 1 0;land 9 1 0", "buy 1");
         x.force(0);
         due("never quiet", x.quiet(), -2);
+        x = with("table 1 9;land 9 1 0;land 9 1 0", "buy 1 if week<59", "buy 1 if week<60");
+        x.force(0);
+        due("the last of 60", x.quiet(), 59);
+        x.force(1);
+        due("one behind these", x.quiet(), -2);
         due("no table", new SunTable().quiet(), -1);
         due("no lands", with("table 1 1").quiet(), 0);
     }
@@ -644,6 +666,11 @@ public final class PromisesTest {
         x = with("table 1 0;land 1 0 9;land 0 0 99", "buy 1 if land=1");
         x.force(0);
         due("men go, sun is left", x.need(1, 1, 1), -2);
+        x = with("table 5 9;land 1 1 50;land 9 0 0", "buy 1 if land=1 and theirsun>20", "buy 1 if land=1 and theirsun>21");
+        x.force(0);
+        due("twenty more", x.need(0, 6, 1), 20);
+        x.force(1);
+        due("no more than twenty", x.need(0, 6, 1), -2);
     }
 
     private static void promise22() {
