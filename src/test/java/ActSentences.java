@@ -139,7 +139,8 @@ final class ActSentences {
         Held.due("acts", x.count(12), 2);
     }
 
-    @Sentence(promise = 12, says = "FIGHT (two LANDS that have MEN: each loses half of what the one with fewer has, upwards);")
+    @Sentence(promise = 12, says =
+        "FIGHT (two LANDS that have MEN: each loses half of what the one with fewer has, upwards);")
     static void p12HalfUpwards() {
         SunTable x = Held.with("table 3 1;land 1 0 0;land 1 0 0;land 3 0 0;land 99 0 0;land 99 0 0");
         Held.due("half of one is one", x.fight(0, 1), 1);

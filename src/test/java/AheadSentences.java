@@ -15,7 +15,8 @@ final class AheadSentences {
 
     @Sentence(promise = 15, says = "(By what is asked nothing changes;")
     static void p15ByWhatIsAskedNothingChanges() {
-        SunTable x = Held.with("table 1 3;land 9 1 40;land 5 4 36;land 3 2 30;sun 1 3;sun 0 60", "buy theirsun", "buy 1");
+        SunTable x = Held.with("table 1 3;land 9 1 40;land 5 4 36;land 3 2 30;sun 1 3;sun 0 60", "buy theirsun",
+            "buy 1");
         x.force(0);
         x.seed(12345);
         x.note(0, 0, 1);
@@ -41,9 +42,61 @@ final class AheadSentences {
         Held.due("the image is as it was", x.back(0), 1);
     }
 
+    /** What questions of all kinds answer, the last ones first if that is wished. */
+    private static int[] answers(SunTable x, boolean backwards) {
+        int[] all = new int[17];
+        for (int i = 0; i < all.length; i++) {
+            int k = backwards ? all.length - 1 - i : i;
+            all[k] = answer(x, k);
+        }
+        return all;
+    }
+
+    private static int answer(SunTable x, int k) {
+        switch (k) {
+            case 0: return x.ahead(0, 7, 3);
+            case 1: return x.bare(1);
+            case 2: return x.row(1, 3, 0);
+            case 3: return x.row(1, 3, 1);
+            case 4: return x.best(9, 0);
+            case 5: return x.best(9, 1);
+            case 6: return x.quiet();
+            case 7: return x.worth(0, 9, 9);
+            case 8: return x.need(1, 30, 9);
+            case 9: return x.game(2, 0, 4, 0);
+            case 10: return x.shun(9, 1);
+            case 11: return x.shun(9, 2);
+            case 12: return x.mother(9, 1);
+            case 13: return x.ruled(0);
+            case 14: return x.look(0, 1);
+            case 15: return x.summers(3, 9, 60, 0);
+            default: return x.summers(3, 9, 60, 1);
+        }
+    }
+
+    private static SunTable toAsk() {
+        SunTable x = Held.with("table 1 3;land 9 1 40;land 5 4 36;land 3 2 30;sun 1 3;sun 0 60",
+            "buy theirsun if hay>0", "buy 1");
+        x.force(0);
+        x.note(0, 0, 1);
+        return x;
+    }
+
+    @Sentence(promise = 15, says = "By what is asked nothing changes")
+    static void p15WhatIsAskedTurnsNoOtherAnswer() {
+        SunTable x = toAsk();
+        int[] first = answers(x, false);
+        int[] then = answers(x, true);
+        for (int k = 0; k < first.length; k++) {
+            Held.due("question " + k + " of a new object", answer(toAsk(), k), first[k]);
+            Held.due("question " + k + " again", then[k], first[k]);
+        }
+    }
+
     @Sentence(promise = 15, says = "WEEKS go on by the RULE IN FORCE, beyond 999, too.)")
     static void p15BeyondWeek999() {
-        SunTable x = Held.with("table 1 9;land 9 0 50;land 0 9 0", "buy 1 if land=0 and week=1000", "buy 1 if land=0 and week<1005");
+        SunTable x = Held.with("table 1 9;land 9 0 50;land 0 9 0", "buy 1 if land=0 and week=1000",
+            "buy 1 if land=0 and week<1005");
         Inside.week(x, 999);
         x.force(0);
         Held.due("week 999: rain", x.ahead(0, 1, 2), 49);
@@ -114,7 +167,8 @@ final class AheadSentences {
 
     // ---- promise 16
 
-    @Sentence(promise = 16, says = "BARE of a LAND: the first WEEK, this one the first, of 100, at whose begin it has no HAY.")
+    @Sentence(promise = 16, says =
+        "BARE of a LAND: the first WEEK, this one the first, of 100, at whose begin it has no HAY.")
     static void p16TheFirstOf100() {
         SunTable x = Held.with("table 9 0;land 0 0 0;land 0 0 1;land 0 0 98;land 0 0 99;land 0 1 99");
         Held.due("now", x.bare(0), 0);
@@ -160,7 +214,8 @@ final class AheadSentences {
 
     // ---- promise 19
 
-    @Sentence(promise = 19, says = "QUIET: the first WEEK, this one the first, of 60, in which, and in the 4 behind it, nobody BUYS.")
+    @Sentence(promise = 19, says =
+        "QUIET: the first WEEK, this one the first, of 60, in which, and in the 4 behind it, nobody BUYS.")
     static void p19FiveWeeksOf60() {
         String table = "table 1 9;land 9 1 0;land 9 1 0";
         SunTable x = Held.by("buy 1 if week<59", table);
@@ -188,7 +243,8 @@ final class AheadSentences {
 
     @Sentence(promise = 19, says = "nobody BUYS")
     static void p19AnybodyBuys() {
-        SunTable x = Held.by("buy 1 if land=4 and week<7", "table 1 9;land 0 9 0;land 0 0 0;land 0 0 0;land 0 0 0;land 9 0 0");
+        SunTable x = Held.by("buy 1 if land=4 and week<7",
+            "table 1 9;land 0 9 0;land 0 0 0;land 0 0 0;land 0 0 0;land 9 0 0");
         Held.due("the last land alone buys", x.quiet(), 7);
         x = Held.with("table 1 9;land 0 9 0;land 3 0 99");
         Held.due("until it has no men left", x.quiet(), 3);
@@ -207,7 +263,9 @@ final class AheadSentences {
 
     // ---- promise 20
 
-    @Sentence(promise = 20, says = "WORTH of MEN (1 to 99) more for a LAND now (999 at most), for n WEEKS (1 to 60): its BARN then less what it would be without these.")
+    @Sentence(promise = 20, says =
+        "WORTH of MEN (1 to 99) more for a LAND now (999 at most), for n WEEKS (1 to 60): its BARN then less "
+        + "what it would be without these.")
     static void p20MenAndWeeksAtTheirLimits() {
         SunTable x = Held.with(WEEK_59);
         Held.due("in 60 weeks a man more reaps one more", x.worth(0, 1, 60), 1);
@@ -221,6 +279,13 @@ final class AheadSentences {
         Held.due("in no week", x.worth(0, 1, 0), -100000);
         x = Held.with("table 9 0;land 0 1 98");
         Held.due("at most all", x.worth(0, 99, 1), 98);
+    }
+
+    @Sentence(promise = 20, says = "its BARN then less what it would be without these")
+    static void p20TheLastHay() {
+        SunTable x = Held.with("table 9 9;land 0 9 1;land 0 0 0");
+        Held.due("the only hay", x.worth(0, 1, 1), 1);
+        Held.due("no hay", x.worth(1, 1, 1), 0);
     }
 
     @Sentence(promise = 20, says = "more for a LAND now (999 at most)")
@@ -259,7 +324,9 @@ final class AheadSentences {
 
     // ---- promise 21
 
-    @Sentence(promise = 21, says = "NEED of a LAND for a BARN (1 to 9999) and n WEEKS (1 to 60): the least SUN, 0 to 20, that it must have more now")
+    @Sentence(promise = 21, says =
+        "NEED of a LAND for a BARN (1 to 9999) and n WEEKS (1 to 60): the least SUN, 0 to 20, that it must "
+        + "have more now")
     static void p21BarnAndWeeksAtTheirLimits() {
         SunTable x = Held.with(WEEK_59);
         Held.due("in 60 weeks by what is told", x.need(0, 3, 60), 0);
@@ -298,6 +365,7 @@ final class AheadSentences {
         Held.due("just as full", x.need(0, 4, 1), 1);
         Held.due("fuller", x.need(0, 3, 1), 1);
         Held.due("one too much", x.need(0, 5, 1), -2);
+        Held.due("the only hay", Held.with("table 9 9;land 1 0 1").need(0, 1, 1), 1);
         Held.due("in a second week", x.need(0, 5, 2), 2);
         Held.due("just as full in two", x.need(0, 8, 2), 2);
         Held.due("stale keeps nine: ten suns in all", x.need(0, 40, 60), 10);
@@ -333,7 +401,8 @@ final class AheadSentences {
 
     @Sentence(promise = 21, says = "now (99 at most), so that")
     static void p21WhatIsMoreIsLost() {
-        SunTable x = Held.with("table 1 0;land 9 0 90;land 9 0 0", "buy 1 if land=1 and theirsun=99", "buy 1 if land=1 and theirsun=100");
+        SunTable x = Held.with("table 1 0;land 9 0 90;land 9 0 0", "buy 1 if land=1 and theirsun=99",
+            "buy 1 if land=1 and theirsun=100");
         Inside.sun(x, 0, 90);
         x.force(0);
         Held.due("99 of sun", x.need(0, 10, 1), 9);

@@ -30,7 +30,8 @@ final class ChoiceSentences {
         }
     }
 
-    @Sentence(promise = 17, says = "any from whom it CAN then, or from nobody, in place of what the RULE says (others by it),")
+    @Sentence(promise = 17, says =
+        "any from whom it CAN then, or from nobody, in place of what the RULE says (others by it),")
     static void p17InPlaceOfTheRule() {
         SunTable x = Held.by("buy 0", "table 1 0;land 9 0 99;land 0 1 0");
         dueRow("the rule says nobody", x, 0, 8, 1);
@@ -49,7 +50,9 @@ final class ChoiceSentences {
         dueRow("it can once", x, 0, 1, -1, 1);
     }
 
-    @Sentence(promise = 17, says = "so that its BARN is fullest behind these; of several the first row (nobody ahead of LAND 0): how full; from whom in which WEEK.")
+    @Sentence(promise = 17, says =
+        "so that its BARN is fullest behind these; of several the first row (nobody ahead of LAND 0): how "
+        + "full; from whom in which WEEK.")
     static void p17OfSeveralTheFirst() {
         SunTable x = Held.by("buy 0", "table 1 9;land 0 1 0;land 9 0 9;land 0 1 0");
         dueRow("land 0 ahead of land 2", x, 1, 8, 0);
@@ -64,7 +67,8 @@ final class ChoiceSentences {
         dueRow("two suns, the first row", x, 1, 8 + 6, 0, 0);
     }
 
-    @Sentence(promise = 17, says = "ROW what 0: how full, 1 to 4: from whom in that WEEK (NONE: nobody; -2: there is no such WEEK).")
+    @Sentence(promise = 17, says =
+        "ROW what 0: how full, 1 to 4: from whom in that WEEK (NONE: nobody; -2: there is no such WEEK).")
     static void p17NoSuchWeek() {
         SunTable x = Held.with("table 1 0;land 9 0 99;land 0 1 0");
         for (int n = 1; n <= 4; n++) {
@@ -97,7 +101,9 @@ final class ChoiceSentences {
 
     // ---- promise 18
 
-    @Sentence(promise = 18, says = "BEST RATE for n WEEKS (1 to 60): the RATE, 1 to 9, in place of what it is, by which all BARNS together are fullest then;")
+    @Sentence(promise = 18, says =
+        "BEST RATE for n WEEKS (1 to 60): the RATE, 1 to 9, in place of what it is, by which all BARNS "
+        + "together are fullest then;")
     static void p18RatesAndWeeksAtTheirLimits() {
         for (int rate = 1; rate <= 9; rate++) {
             SunTable x = Held.by("buy 1 if land=0 and rate=" + rate, "table 5 9;land 20 0 99;land 0 1 20");
@@ -111,6 +117,15 @@ final class ChoiceSentences {
         Held.due("in 61", x.best(61, 1), -1);
         Held.due("in one", x.best(1, 1), 0);
         Held.due("in none", x.best(0, 1), -1);
+    }
+
+    @Sentence(promise = 18, says = "fullest then; of several the least")
+    static void p18TheLastHay() {
+        SunTable x = Held.with("table 9 9;land 1 1 1");
+        Held.due("the only hay is reaped", x.best(1, 1), 1);
+        Held.due("and no more", x.best(60, 1), 1);
+        x.week();
+        Held.due("no hay is left", x.best(60, 1), 1);
     }
 
     @Sentence(promise = 18, says = "of several the least; how full.")
@@ -203,7 +218,9 @@ final class ChoiceSentences {
         Held.due("without a rule neither", x.game(0, 1, 1, 0), 0);
     }
 
-    @Sentence(promise = 22, says = "the first one wants its BARN less the other one's to be most behind the last turn, the second one least, if both do their best: how much;")
+    @Sentence(promise = 22, says =
+        "the first one wants its BARN less the other one's to be most behind the last turn, the second one "
+        + "least, if both do their best: how much;")
     static void p22BothDoTheirBest() {
         SunTable x = Held.with("table 1 9;land 9 0 20;land 9 1 20");
         Held.due("0 buys and reaps eight", x.game(0, 1, 1, 0), 8);
@@ -229,7 +246,9 @@ final class ChoiceSentences {
         Held.due("one", x.game(0, 1, 1, 0), 1);
     }
 
-    @Sentence(promise = 22, says = {"GAME what 0: how much (below 0, too), 1: 1 if it BUYS, else 0.", "-100000 without these (unlike)."})
+    @Sentence(promise = 22, says = {
+        "GAME what 0: how much (below 0, too), 1: 1 if it BUYS, else 0.",
+        "-100000 without these (unlike)."})
     static void p22WithoutThese() {
         SunTable x = Held.with("table 1 0;land 2 0 9;land 0 1 9");
         int[] was = Held.seen(x);
@@ -252,7 +271,9 @@ final class ChoiceSentences {
 
     // ---- promise 23
 
-    @Sentence(promise = 23, says = "SHUN for n WEEKS (1 to 60): the fewest LANDS from which nobody buys from now on, so that all BARNS together are fullest then:")
+    @Sentence(promise = 23, says =
+        "SHUN for n WEEKS (1 to 60): the fewest LANDS from which nobody buys from now on, so that all BARNS "
+        + "together are fullest then:")
     static void p23WeeksAtTheirLimits() {
         SunTable x = Held.with(WEEK_59);
         Held.due("in 60 weeks", x.shun(60, 2), 3);
@@ -267,7 +288,9 @@ final class ChoiceSentences {
         Held.due("59 weeks: no set", x.shun(59, 1), 0);
     }
 
-    @Sentence(promise = 23, says = "of all sets those by which they are; of these the fewest, of several the least as bits: how many; how full.")
+    @Sentence(promise = 23, says =
+        "of all sets those by which they are; of these the fewest, of several the least as bits: how many; "
+        + "how full.")
     static void p23TheFewestThenTheLeast() {
         SunTable x = Held.with("table 1 0;land 9 1 9;land 9 1 9");
         Held.due("nobody buys: none", x.shun(60, 0), 0);
@@ -313,7 +336,9 @@ final class ChoiceSentences {
         Held.due("how full", x.shun(1, 2), 9);
     }
 
-    @Sentence(promise = 23, says = {"SHUN what 0: how many, 1: the set, 2: how full.", "NONE without these, or a TABLE."})
+    @Sentence(promise = 23, says = {
+        "SHUN what 0: how many, 1: the set, 2: how full.",
+        "NONE without these, or a TABLE."})
     static void p23WithoutThese() {
         SunTable x = Held.with("table 1 0;land 9 1 9;land 9 1 9");
         Held.due("what -1", x.shun(1, -1), -1);
@@ -340,7 +365,9 @@ final class ChoiceSentences {
         Held.due("in none", x.mother(0, 1), -2);
     }
 
-    @Sentence(promise = 24, says = "fills all BARNS together most behind these, or for nobody; of several nobody, then the least; how full.")
+    @Sentence(promise = 24, says =
+        "fills all BARNS together most behind these, or for nobody; of several nobody, then the least; how "
+        + "full.")
     static void p24NobodyThenTheLeast() {
         SunTable x = Held.with("table 9 0;land 0 0 9;land 5 1 9;land 5 0 0");
         Held.due("nothing more for anybody: nobody", x.mother(1, 0), -1);
@@ -355,6 +382,15 @@ final class ChoiceSentences {
         x = Held.with("table 9 9;land 5 1 5;land 4 0 9");
         x.week();
         Held.due("what is there counts", x.mother(1, 1), 5 + 4);
+    }
+
+    @Sentence(promise = 24, says = "for whom one SUN more now")
+    static void p24OneSunAlone() {
+        SunTable x = Held.with("table 9 9;land 3 0 99;land 9 0 0");
+        Held.due("one is used in one week", x.mother(2, 1), 3);
+        Held.due("in 60 weeks, too", x.mother(60, 1), 3);
+        x = Held.with("table 9 9;land 1 0 1");
+        Held.due("the only hay", x.mother(1, 1), 1);
     }
 
     @Sentence(promise = 24, says = "one SUN more now (99 at most) fills")
@@ -414,9 +450,12 @@ final class ChoiceSentences {
         x = barns(7);
         dueParts(x, 9999, 9999);
         dueParts(x, 1, 1);
+        dueParts(barns(0, 1), 5, 0, 5);
+        dueParts(barns(1), 9999, 9999);
     }
 
-    @Sentence(promise = 25, says = "what is left, one each, to those whose part lost most by that, of several the least first")
+    @Sentence(promise = 25, says =
+        "what is left, one each, to those whose part lost most by that, of several the least first")
     static void p25WhatIsLeft() {
         dueParts(barns(1, 1), 1, 1, 0);
         dueParts(barns(1, 1, 1), 2, 1, 1, 0);

@@ -1,6 +1,7 @@
 import java.io.IOException;
 import java.lang.reflect.InvocationTargetException;
 import java.lang.reflect.Method;
+import java.nio.file.Files;
 import java.nio.file.Path;
 import java.util.Arrays;
 import java.util.Comparator;
@@ -15,7 +16,8 @@ final class Held {
     }
 
     static int run(Class<?>... groups) throws IOException, ReflectiveOperationException {
-        Document document = new Document(Path.of("../shared/DOC.md"));
+        Path file = Path.of("../shared/DOC.md");
+        Document document = Files.exists(file) ? new Document(file) : null;
         boolean[] promises = new boolean[Document.PROMISES + 1];
         for (Class<?> group : groups) {
             Method[] methods = group.getDeclaredMethods();
@@ -29,13 +31,23 @@ final class Held {
             }
         }
         held = "the document";
-        for (int i = 0; i <= Document.PROMISES; i++) {
-            check(i == 0 || promises[i], "no test is of promise " + i);
-            check(document.rest(i).isEmpty(), "no test holds, of " + (i == 0 ? "the Terms" : "promise " + i) + ": "
-                + document.rest(i));
+        for (int i = 1; i <= Document.PROMISES; i++) {
+            check(promises[i], "no test is of promise " + i);
+        }
+        if (document == null) {
+            System.out.println("there is no " + file + " to hold the tests' quotes against");
+        } else {
+            lookForTheRest(document);
         }
         System.out.println(wrong == 0 ? tests + " tests hold their sentences" : wrong + " answers are not as due");
         return wrong;
+    }
+
+    private static void lookForTheRest(Document document) {
+        for (int i = 0; i <= Document.PROMISES; i++) {
+            String rest = document.rest(i);
+            check(rest.isEmpty(), "no test holds, of " + (i == 0 ? "the Terms" : "promise " + i) + ": " + rest);
+        }
     }
 
     private static void look(Document document, Method method, Sentence sentence) throws IllegalAccessException {
@@ -43,7 +55,7 @@ final class Held {
         held = "promise " + sentence.promise() + ", " + method.getDeclaringClass().getSimpleName() + "."
             + method.getName() + " (\"" + String.join("\", \"", sentence.says()) + "\")";
         for (String says : sentence.says()) {
-            String fault = document.quote(sentence.promise(), says);
+            String fault = document == null ? null : document.quote(sentence.promise(), says);
             check(fault == null, fault);
         }
         try {

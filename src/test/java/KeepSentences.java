@@ -11,7 +11,9 @@ final class KeepSentences {
 
     // ---- promise 31
 
-    @Sentence(promise = 31, says = "What 0: RATE, 1: STALE, 2: LANDS, 3: RULES, 4: the RULE IN FORCE (NONE), 5: WEEK, 6: MEN of all, 7: SUN of all, 8: HAY of all, 9: BARNS of all,")
+    @Sentence(promise = 31, says =
+        "What 0: RATE, 1: STALE, 2: LANDS, 3: RULES, 4: the RULE IN FORCE (NONE), 5: WEEK, 6: MEN of all, 7: "
+        + "SUN of all, 8: HAY of all, 9: BARNS of all,")
     static void p31WhatIsThere() {
         SunTable x = Held.with("table 9 8;land 1 2 3;land 10 3 30;land 0 0 0;land 0 1 0;land 5 9 9", "buy 0", "buy 0");
         int[] first = {9, 8, 5, 2, -1, 0, 16, 15, 42, 0};
@@ -161,7 +163,8 @@ final class KeepSentences {
         Held.due("the note is so by 0 alone", x.ruled(0), 1);
     }
 
-    @Sentence(promise = 33, says = "(the RULE IN FORCE, what can be UNDONE, too); gone back to, it is as it was (these stay).")
+    @Sentence(promise = 33, says =
+        "(the RULE IN FORCE, what can be UNDONE, too); gone back to, it is as it was (these stay).")
     static void p33RulesAndTheTapeStay() {
         SunTable x = Held.with("table 2 3;land 9 1 20;land 5 4 6", "buy 1");
         x.image(0);
@@ -208,6 +211,68 @@ final class KeepSentences {
         x.back(1);
         Held.due("none can", x.undo(), -2);
         Held.due("men", x.land(0, 0), 85);
+    }
+
+    @Sentence(promise = 33, says = "(the RULE IN FORCE, what can be UNDONE, too)")
+    static void p33WhatCanBeUndoneIsNotWhatWasDoneSince() {
+        SunTable x = Held.with("table 1 9;land 90 0 0;land 0 0 0");
+        for (int i = 1; i <= 20; i++) {
+            x.give(0, 1, 1);
+        }
+        x.image(0);
+        for (int i = 0; i < 20; i++) {
+            x.undo();
+        }
+        // More than twenty, so that the first that is kept is another one, too.
+        for (int i = 0; i < 25; i++) {
+            x.set(2 + i % 2);
+        }
+        x.image(1);
+        x.back(0);
+        for (int i = 19; i >= 0; i--) {
+            Held.due("undo", x.undo(), i);
+            Held.due("men", x.land(0, 0), 90 - i);
+            Held.due("rate", x.count(0), 1);
+        }
+        x.back(1);
+        for (int i = 19; i >= 0; i--) {
+            Held.due("undo", x.undo(), i);
+            Held.due("rate", x.count(0), 2 + i % 2);
+            Held.due("men", x.land(0, 0), 90);
+        }
+    }
+
+    @Sentence(promise = 33, says = "All is as in an IMAGE")
+    static void p33NotesAsInAnImage() {
+        SunTable x = Held.with("table 1 0;land 9 0 0;land 9 0 0;land 9 0 0;sun 2 0;sun 2 1",
+            "buy 1 if land=1 and week=1",
+            "buy 1 if land=0 and week=1", "buy 1 if land=1 and week=0", "buy 1 if land=0 and other=2 and week=0");
+        x.note(1, 1, 2);
+        x.image(0);
+        x.note(-1, 0, 0);
+        x.note(0, 0, 2);
+        x.image(1);
+        x.note(-1, 0, 0);
+        x.note(0, 1, 2);
+        x.note(1, 0, 2);
+        Held.due("none now", x.ruled(0), 0);
+        x.back(0);
+        Held.due("one note", x.count(11), 1);
+        Held.due("by 0", x.ruled(1), 0);
+        Held.due("alone", x.ruled(0), 1);
+        x.back(1);
+        Held.due("by 3", x.ruled(1), 3);
+        Held.due("alone", x.ruled(0), 1);
+        x.note(-1, 0, 0);
+        x.note(1, 0, 2);
+        x.image(2);
+        x.back(0);
+        x.back(2);
+        Held.due("by 1", x.ruled(1), 1);
+        x.note(-1, 0, 0);
+        x.note(1, 0, -1);
+        x.back(2);
+        Held.due("by 1 again", x.ruled(1), 1);
     }
 
     @Sentence(promise = 33, says = "gone back to, it is as it was")

@@ -39,7 +39,9 @@ final class NoteSentences {
         Held.due("without a table", new SunTable().note(-1, 0, 0), 0);
     }
 
-    @Sentence(promise = 26, says = "NOTES 0 to 9, told: in the n-th WEEK of all (0 to 60) a LAND bought from another one, or from nobody (NONE).")
+    @Sentence(promise = 26, says =
+        "NOTES 0 to 9, told: in the n-th WEEK of all (0 to 60) a LAND bought from another one, or from nobody "
+        + "(NONE).")
     static void p26WeeksAtTheirLimits() {
         SunTable x = firstAndLast();
         Held.due("week -1 is none of them, but NONE", x.note(-1, 0, 1), 0);
@@ -55,6 +57,22 @@ final class NoteSentences {
         Held.weeks(x, 3);
         Held.due("of all, not from now on", x.note(0, 0, 1), 1);
         dueRuled("by 0", x, 1, 0);
+    }
+
+    @Sentence(promise = 26, says = "a LAND bought from another one")
+    static void p26EachLandFromEachOther() {
+        for (int land = 0; land <= 4; land++) {
+            for (int other = 0; other <= 4; other++) {
+                if (land != other) {
+                    SunTable x = Held.with("table 1 9;land 9 1 0;land 9 1 0;land 9 1 0;land 9 1 0;land 9 1 0",
+                        "buy 1 if land=" + land + " and other=" + other);
+                    Held.due("a note", x.note(0, land, other), 1);
+                    dueRuled(land + " from " + other, x, 1, 0);
+                    Held.due("from another one", x.note(0, land, land == 0 && other == 1 ? 2 : land == 0 ? 1 : -1), 2);
+                    dueRuled("not both", x, 0, -2);
+                }
+            }
+        }
     }
 
     @Sentence(promise = 26, says = "or from nobody (NONE)")
@@ -110,9 +128,12 @@ final class NoteSentences {
 
     // ---- promise 27
 
-    @Sentence(promise = 27, says = "RULED: which of the RULES, and of none, so that from the begin on, all as the text told it, all NOTES are so:")
+    @Sentence(promise = 27, says =
+        "RULED: which of the RULES, and of none, so that from the begin on, all as the text told it, all "
+        + "NOTES are so:")
     static void p27FromTheBeginOn() {
-        SunTable x = Held.with("table 1 0;land 9 0 9;land 0 1 0;land 0 1 0;sun 1 1;sun 2 1;sun 2 1", "buy other", "buy 0",
+        SunTable x = Held.with("table 1 0;land 9 0 9;land 0 1 0;land 0 1 0;sun 1 1;sun 2 1;sun 2 1", "buy other",
+            "buy 0",
             "buy 3-other", "buy theirsun if land=0");
         x.note(0, 0, 1);
         dueRuled("none, 2 and 3", x, 3, -1);
@@ -127,6 +148,22 @@ final class NoteSentences {
         x.undo();
         x.undo();
         dueRuled("the same", x, 1, 2);
+    }
+
+    @Sentence(promise = 27, says = "from the begin on, all as the text told it")
+    static void p27ByTheRateThatWasTold() {
+        SunTable x = Held.with("table 5 0;land 4 0 9;land 5 0 9;land 0 1 0");
+        x.note(0, 0, -1);
+        x.note(0, 1, 2);
+        dueRuled("four men are too few, five enough", x, 1, -1);
+        x.set(4);
+        dueRuled("by the rate told", x, 1, -1);
+        x.note(-1, 0, 0);
+        x.note(0, 0, 2);
+        dueRuled("not by the rate set", x, 0, -2);
+        x.image(0);
+        x.back(0);
+        dueRuled("in an image neither", x, 0, -2);
     }
 
     @Sentence(promise = 27, says = "how many; the first (none ahead of 0, told as NONE).")
@@ -144,7 +181,8 @@ final class NoteSentences {
 
     @Sentence(promise = 27, says = "RULED what 0: how many, 1: the first (NONE: none; -2: there is none such).")
     static void p27SixRulesAndNoneSuch() {
-        SunTable x = Held.with("table 1 0;land 9 0 0;land 0 1 0", "buy 0", "buy 0", "buy 0", "buy 0", "buy 0", "buy 1 if land=0");
+        SunTable x = Held.with("table 1 0;land 9 0 0;land 0 1 0", "buy 0", "buy 0", "buy 0", "buy 0", "buy 0",
+            "buy 1 if land=0");
         dueRuled("all seven", x, 7, -1);
         x.note(0, 0, 1);
         dueRuled("the last alone", x, 1, 5);
@@ -169,9 +207,11 @@ final class NoteSentences {
 
     // ---- promise 28
 
-    @Sentence(promise = 28, says = "LOOK for the n-th WEEK: the LAND by from whom it buys these part best: the most alike are fewest,")
+    @Sentence(promise = 28, says =
+        "LOOK for the n-th WEEK: the LAND by from whom it buys these part best: the most alike are fewest,")
     static void p28TheMostAlikeAreFewest() {
-        SunTable x = Held.with("table 1 0;land 9 0 9;land 9 3 0;land 9 3 0", "buy other if land=0", "buy 0", "buy 3-other",
+        SunTable x = Held.with("table 1 0;land 9 0 9;land 9 3 0;land 9 3 0", "buy other if land=0", "buy 0",
+            "buy 3-other",
             "buy 1 if other=1");
         // 0 buys from 1, 2, nobody, 1 and 1: three alike. 1 from nobody but by one. 2 from 1 by two of five.
         dueLook("three of five", x, 0, 0, 3);
@@ -191,7 +231,8 @@ final class NoteSentences {
         x = Held.with("table 1 0;land 9 1 0;land 9 1 0", "buy 1 if land=1", "buy 0");
         dueLook("land 1 alone parts them", x, 0, 1, 2);
         // Nobody is one like the others: 4 of land 1 by one rule, 1 of it by another one, none by a third.
-        x = Held.with("table 1 0;land 9 1 0;land 9 1 0;land 9 1 0", "buy other if land=0", "buy 3-other if land=0", "buy 0");
+        x = Held.with("table 1 0;land 9 1 0;land 9 1 0;land 9 1 0", "buy other if land=0", "buy 3-other if land=0",
+            "buy 0");
         dueLook("two of nobody, one of each", x, 0, 0, 2);
         Held.due("no rules but none", Held.with("table 1 0;land 9 1 0").look(0, 1), 1);
     }
@@ -212,6 +253,21 @@ final class NoteSentences {
         dueLook("behind the note's week", x, 60, 0, 2);
         Held.weeks(x, 4);
         dueLook("of all, not from now on", x, 0, 0, 3);
+    }
+
+    @Sentence(promise = 28, says = "the most alike are fewest")
+    static void p28SevenAlikeAndFiveLands() {
+        String five = "table 1 0;land 9 1 0;land 9 1 0;land 9 1 0;land 9 1 0;land 9 1 0";
+        SunTable x = Held.with(five, "buy 0", "buy 0", "buy 0", "buy 0", "buy 0", "buy 0");
+        dueLook("all seven alike", x, 0, 0, 7);
+        dueLook("all seven alike, at the end", x, 60, 0, 7);
+        x = Held.with(five, "buy 0", "buy 0", "buy 0", "buy 0", "buy 0", "buy 1 if land=4");
+        dueLook("the last land by the last rule", x, 0, 4, 6);
+        x = Held.with(five, "buy 1 if land=4", "buy 2-other%2 if land=4", "buy other if land=4",
+            "buy 0-other+9 if land=4 and other=2",
+            "buy 1 if land=3", "buy other if land=3");
+        // 4 buys from nobody by three, from 0 by two, from 3 and from 2 by one; 3 from nobody by five.
+        dueLook("three of seven", x, 0, 4, 3);
     }
 
     @Sentence(promise = 28, says = "-2: no RULE is so, or there are no LANDS.")
@@ -262,7 +318,9 @@ final class NoteSentences {
         return (x * 1103515245L + 12345L) % 2147483648L;
     }
 
-    @Sentence(promise = 30, says = "DRAWS: x (0 to 2147483647; 0 at first) becomes x * 1103515245 + 12345, of 2147483648 the rest; a DRAW is x / 65536.")
+    @Sentence(promise = 30, says =
+        "DRAWS: x (0 to 2147483647; 0 at first) becomes x * 1103515245 + 12345, of 2147483648 the rest; a "
+        + "DRAW is x / 65536.")
     static void p30DrawsByTheLimitsOfX() {
         for (int seed : new int[] {0, 1, 65535, 65536, 1073741823, 1073741824, MOST - 1, MOST}) {
             // Five lands that reap 1, 2, 4, 8 and 16 tell which one had the sun.
@@ -363,7 +421,8 @@ final class NoteSentences {
         Held.due("never a hundred", x.summers(1, 1, 100, 1), 0);
     }
 
-    @Sentence(promise = 30, says = "how full all BARNS are at the end; how often anybody BUYS in these, all together (x as it was).")
+    @Sentence(promise = 30, says =
+        "how full all BARNS are at the end; how often anybody BUYS in these, all together (x as it was).")
     static void p30AllTogether() {
         SunTable x = Held.with("table 1 9;land 5 0 50;land 5 0 0");
         // Draws by x = 0: land 0 has the first sun; 22117 % 2 = 1: land 1 has the second, and 0 buys it.

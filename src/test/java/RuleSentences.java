@@ -67,13 +67,23 @@ final class RuleSentences {
         Held.due("the tape is empty", x.count(14), 0);
         Held.due("rules", x.count(3), 1);
         Held.due("it can't be in force", x.force(1), -2);
-        Held.due("its number is free", Texts.rule(x, "buy 0"), 1);
+        for (int i = 0; i < 9; i++) {
+            Held.due("a long faulty one", Texts.rule(x, SIXTY + " if"), -2 - (1 + 8 * 126));
+        }
+        Held.due("its number is free", Texts.rule(x, "buy 1 if 1=2"), 1);
         Texts.table(x, "table 1 1;land 1 0 0;land 0 1 0");
         x.force(1);
         Held.due("nothing is left of the faulty one", x.week(), 0);
         Texts.table(x, "table 1 1;land 1 0 0;land 0 1 0");
         x.force(0);
         Held.due("the good one is as it was: both buy", x.week(), 2);
+        for (int i = 0; i < 9; i++) {
+            Texts.rule(x, SIXTY + " if");
+        }
+        Held.due("one behind long faulty ones", Texts.rule(x, "buy 1 if land=0"), 2);
+        x.undo();
+        x.force(2);
+        Held.due("is whole", x.week(), 1);
     }
 
     @Sentence(promise = 5, says = "NONE, and nothing happens: there are 6.")
@@ -100,6 +110,9 @@ final class RuleSentences {
         taken("buy 1" + " ".repeat(395));
         taken("buy" + " ".repeat(396) + "1");
         refused("buy" + " ".repeat(397), 400, 0);
+        // Every byte a sign of its own.
+        refused("%".repeat(400), 0, 0);
+        refused("buy 1" + "[".repeat(395), 5, 0);
         refused("buy 1" + " ".repeat(394) + ";", 400, 0);
         refused("buy 1" + " ".repeat(394) + "x", 399, 0);
     }
@@ -164,6 +177,10 @@ final class RuleSentences {
         notSo("not 1=1");
         so("not not 1=1");
         notSo("not not 1=2");
+        String table = "table 1 9;land 9 1 0;land 9 1 0";
+        Held.due("not, and nothing around it", Held.by("buy 1 if not 1=1", table).week(), 0);
+        Held.due("not not", Held.by("buy 1 if not not 1=2", table).week(), 0);
+        Held.due("not, or", Held.by("buy 1 if not 1=1 or not 2=2", table).week(), 0);
         // A "not" is closer than an "and" and an "or".
         so("not 1=2 or 1=1");
         notSo("not 1=2 and 1=2");
@@ -276,13 +293,16 @@ final class RuleSentences {
         refused("buy 1 234567", 6, 0);
     }
 
-    @Sentence(promise = 5, says = "WORDS (small letters, as far as these go on) of a LAND and of another one from which it CAN buy:")
+    @Sentence(promise = 5, says =
+        "WORDS (small letters, as far as these go on) of a LAND and of another one from which it CAN buy:")
     static void p05WordsAsFarAsLettersGoOn() {
         refused("buymen", 0, 0);
         refused("bu y 1", 0, 0);
         refused("buy me", 4, 0);
         refused("buy mens", 4, 0);
         refused("buy menmen", 4, 0);
+        refused("buy mena", 4, 0);
+        refused("buy menz", 4, 0);
         refused("buy Men", 4, 0);
         refused("buy mEn", 4, 0);
         refused("buy men if sun=1and hay=1 orsun=1", 26, 0);
@@ -296,7 +316,9 @@ final class RuleSentences {
         Held.due("from the one that has sun", x.land(0, 5), 2);
     }
 
-    @Sentence(promise = 5, says = {"land, other, men, sun, hay, barn (of the first),", "theirmen, theirsun, theirhay (of the other one)"})
+    @Sentence(promise = 5, says = {
+        "land, other, men, sun, hay, barn (of the first),",
+        "theirmen, theirsun, theirhay (of the other one)"})
     static void p05WordsOfTheTwoLands() {
         so("land=0");
         so("other=1");
@@ -326,7 +348,8 @@ final class RuleSentences {
         Held.due("by rate 9", x.week(), 1);
     }
 
-    @Sentence(promise = 5, says = "soon (in how many WEEKS the next told SUN comes to the first, behind this WEEK; 99 without), week.")
+    @Sentence(promise = 5, says =
+        "soon (in how many WEEKS the next told SUN comes to the first, behind this WEEK; 99 without), week.")
     static void p05SoonIsBehindThisWeek() {
         String table = "table 1 9;land 9 0 9;land 0 9 0;sun 0 0;sun 0 1;sun 0 1;sun 0 60;sun 1 2";
         dueTest(table, 0, "soon=1", true);

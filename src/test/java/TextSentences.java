@@ -87,7 +87,8 @@ final class TextSentences {
 
     // ---- promise 2
 
-    @Sentence(promise = 2, says = "Twenty bytes come behind the TAPE, of each number the highest first: how many it has;")
+    @Sentence(promise = 2, says =
+        "Twenty bytes come behind the TAPE, of each number the highest first: how many it has;")
     static void p02TheHighestByteIsTheFirst() {
         SunTable x = new SunTable();
         // "tabl" "e 3 " "4;la" "nd 1" " 2 5"
@@ -225,6 +226,21 @@ final class TextSentences {
         Held.due("bought so far", x.count(10), 0);
     }
 
+    @Sentence(promise = 4, says = "in place of the one there was")
+    static void p04NoSunIsLeftOfAnOldOne() {
+        String lands = "land 1 1 1;land 1 1 1;land 1 1 1;land 1 1 1;land 1 1 1";
+        String suns = ";sun 0 0;sun 1 1;sun 2 30;sun 3 59;sun 4 60;sun 4 0;sun 0 60";
+        SunTable x = Held.with("table 1 1;" + lands + suns);
+        Held.due("a faulty one between", Texts.table(x, "table 1 1;" + lands + suns + ";"), -2 - (1 + 8 * 125));
+        Held.due("told once", x.told(0, 0), 1);
+        Texts.table(x, "table 1 1;" + lands);
+        for (int land = 0; land <= 4; land++) {
+            for (int week : new int[] {0, 1, 30, 59, 60}) {
+                Held.due("told(" + land + ", " + week + ")", x.told(land, week), 0);
+            }
+        }
+    }
+
     @Sentence(promise = 4, says = "(no NOTES, nothing to be UNDONE;")
     static void p04NoNotesAndNothingToUndo() {
         SunTable x = old();
@@ -263,7 +279,8 @@ final class TextSentences {
     static void p04AllStaysByAFault() {
         SunTable x = old();
         x.image(0);
-        Held.due("a fault at the end of a table", Texts.table(x, "table 9 9;land 1 1 1;sun 0 1;sun 0 61"), -2 - (1 + 8 * 35 + 1));
+        Held.due("a fault at the end of a table", Texts.table(x, "table 9 9;land 1 1 1;sun 0 1;sun 0 61"),
+            -2 - (1 + 8 * 35 + 1));
         Held.due("the tape is empty", x.count(14), 0);
         Held.due("the week is there to be undone", x.undo(), 1);
         Held.due("and undone", x.undo(), 0);
@@ -293,6 +310,9 @@ final class TextSentences {
         refused(filled("table 1 1", 399) + ";", 400, 0);
         refused(filled("table 1 1", 399) + "x", 399, 0);
         refused(" ".repeat(400), 400, 0);
+        // Every byte a sign of its own.
+        refused(";".repeat(400), 0, 0);
+        refused("table 1 1" + ";".repeat(391), 10, 0);
     }
 
     @Sentence(promise = 4, says = "CLAUSE { ; CLAUSE }")
@@ -454,6 +474,8 @@ final class TextSentences {
     static void p04AByteAWordOrTheEnd() {
         refused("Table 1 1", 0, 0);
         refused("tables 1 1", 0, 0);
+        refused("tablea 1 1", 0, 0);
+        refused("tablez 1 1", 0, 0);
         refused("tabl 1 1", 0, 0);
         refused("buy 1", 0, 0);
         refused("1", 0, 0);
@@ -491,7 +513,8 @@ final class TextSentences {
         refused("table 1 1;land 1 1 1;sun 0 000060", 27, 1);
     }
 
-    @Sentence(promise = 4, says = "4 one CLAUSE too many, a second table, another CLAUSE ahead of it, a sixth LAND (at its first byte).")
+    @Sentence(promise = 4, says =
+        "4 one CLAUSE too many, a second table, another CLAUSE ahead of it, a sixth LAND (at its first byte).")
     static void p04ClausesAtTheirFirstByte() {
         String forty = LANDS_5 + ";sun 4 9".repeat(34);
         taken(forty, 5);

@@ -174,7 +174,9 @@ final class WeekSentences {
         Held.due("the second from the one that has it then", x.land(1, 5), 0);
     }
 
-    @Sentence(promise = 9, says = "of those it CAN buy from the one for which the SUM of the RULE IN FORCE's first CLAUSE without a TEST, or whose TEST holds (0 without), is greatest,")
+    @Sentence(promise = 9, says =
+        "of those it CAN buy from the one for which the SUM of the RULE IN FORCE's first CLAUSE without a "
+        + "TEST, or whose TEST holds (0 without), is greatest,")
     static void p09TheFirstClauseThatHolds() {
         String table = "table 1 9;land 9 0 0;land 0 5 0;land 0 5 0;land 0 5 0";
         SunTable x = Held.by("buy 5 if other=1;buy 9 if other=2;buy 7", table);
@@ -228,7 +230,8 @@ final class WeekSentences {
         Held.dueLand("one is there", x, 1, 6, 8, 0, 0);
     }
 
-    @Sentence(promise = 9, says = "without a RULE, if it has HAY and no SUN, from the one with most SUN, of several the least.")
+    @Sentence(promise = 9, says =
+        "without a RULE, if it has HAY and no SUN, from the one with most SUN, of several the least.")
     static void p09WithoutARule() {
         SunTable x = Held.with("table 1 9;land 5 0 0;land 0 5 0");
         Held.due("no hay", x.week(), 0);
@@ -246,7 +249,9 @@ final class WeekSentences {
         Held.due("land 0 is the least", x.land(2, 5), 0);
     }
 
-    @Sentence(promise = 9, says = "(3) Each LAND with HAY and SUN uses one: it reaps as much HAY as it has MEN, at most all; that is in its BARN")
+    @Sentence(promise = 9, says =
+        "(3) Each LAND with HAY and SUN uses one: it reaps as much HAY as it has MEN, at most all; that is in "
+        + "its BARN")
     static void p09ItReaps() {
         SunTable x = Held.with("table 9 9;land 4 3 5;land 5 3 5;land 6 3 5;land 0 3 5;land 6 3 0");
         x.week();
