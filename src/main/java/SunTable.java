@@ -356,7 +356,7 @@ public final class SunTable {
         if (asked.amount < 1 || now.sheet.lands < 1) {
             return -2;
         }
-        asked.findLook(ruleCount);
+        asked.findLook();
         return what == 0 ? asked.which : asked.amount;
     }
 
@@ -1574,8 +1574,8 @@ public final class SunTable {
         void findRules(int ruleCount, int week) {
             amount = 0;
             which = -2;
-            for (int rule = NONE; rule < ruleCount && rule < MOST_RULES; rule++) {
-                fits[rule + 1] = isSo(rule, week);
+            for (int rule = NONE; rule < MOST_RULES; rule++) {
+                fits[rule + 1] = rule < ruleCount && isSo(rule, week);
                 if (fits[rule + 1]) {
                     amount++;
                     if (which == -2) {
@@ -1602,10 +1602,10 @@ public final class SunTable {
         }
 
         /** By which LAND the RULES that were found part best. */
-        void findLook(int ruleCount) {
+        void findLook() {
             amount = MOST_RULES + 2;
             for (int land = 0; land < world.sheet.lands; land++) {
-                int alike = mostAlike(ruleCount, land);
+                int alike = mostAlike(land);
                 if (alike < amount) {
                     amount = alike;
                     which = land;
@@ -1613,11 +1613,11 @@ public final class SunTable {
             }
         }
 
-        private int mostAlike(int ruleCount, int land) {
+        private int mostAlike(int land) {
             int most = 0;
-            for (int a = 0; a <= ruleCount; a++) {
+            for (int a = 0; a < fits.length; a++) {
                 int alike = 0;
-                for (int b = 0; b <= ruleCount; b++) {
+                for (int b = 0; b < fits.length; b++) {
                     if (fits[a] && fits[b] && froms[a][land] == froms[b][land]) {
                         alike++;
                     }
